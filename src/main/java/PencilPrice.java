@@ -820,10 +820,11 @@ public final class PencilPrice {
         private final int[] numbers = new int[TAPE + 1];
         private int count;
 
-        private void cut(int[] text, int length) {
+        private void cut(int[] text, int taped) {
+            int length = Math.min(taped, text.length);
             count = 0;
             int at = 0;
-            while (at < length && at < text.length) {
+            for (int i = 0; i < TAPE && at < length; i++) {
                 if (text[at] == ' ') {
                     at++;
                 } else {
@@ -1242,10 +1243,10 @@ public final class PencilPrice {
                         so = !so;
                         break;
                     case Law.OR:
-                        at = so ? with - 1 : at;
+                        at = so ? Math.max(at, with - 1) : at;
                         break;
                     case Law.AND:
-                        at = so ? at : with - 1;
+                        at = so ? at : Math.max(at, with - 1);
                         break;
                     case Law.LESS:
                     case Law.GREATER:
@@ -1707,7 +1708,7 @@ public final class PencilPrice {
                 if ((there >> book & 1) == 1) {
                     asker.about(book, week);
                     asker.words[Reader.CROWD_WORD] = crowd;
-                    if (drawOf(100) < asker.sells()) {
+                    if (drawOfHundred() < asker.sells()) {
                         sold |= 1 << book;
                     }
                 }
@@ -1725,9 +1726,9 @@ public final class PencilPrice {
             return crowd;
         }
 
-        private int drawOf(int n) {
+        private int drawOfHundred() {
             seed = (int) ((seed * 1103L + 12345) % 1000003);
-            return seed % n;
+            return seed % 100;
         }
     }
 }

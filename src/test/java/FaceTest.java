@@ -65,6 +65,10 @@ public final class FaceTest {
         checks.due("public final", Modifier.isPublic(modifiers) && Modifier.isFinal(modifiers));
         for (Class<?> inside : PencilPrice.class.getDeclaredClasses()) {
             checks.due(inside + " is static", Modifier.isStatic(inside.getModifiers()) && !Modifier.isPublic(inside.getModifiers()));
+            for (Method method : inside.getDeclaredMethods()) {
+                checks.due(method + " bears no public name",
+                        !wanted.toString().matches("(?s).*\\b(int|long) " + method.getName() + "\\b.*"));
+            }
             for (Field field : inside.getDeclaredFields()) {
                 checks.due(field + " is a constant", !Modifier.isStatic(field.getModifiers()) || Modifier.isFinal(field.getModifiers()));
             }
